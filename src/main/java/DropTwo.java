@@ -525,7 +525,10 @@ public final class DropTwo {
   }
 
   public int needs(int entrant, int other) {
-    return isOther(entrant, other) && play.isIn(entrant) ? outlook.leastAward(entrant, other) : NONE;
+    if (!isOther(entrant, other) || !play.isIn(entrant)) {
+      return NONE;
+    }
+    return outlook.leastAward(entrant, other);
   }
 
   public int swing(int entrant, int round, int judge) {
@@ -1078,22 +1081,18 @@ public final class DropTwo {
 
     private boolean readFact(Tape tape, int open) {
       boolean isNot = tape.isWord(Tape.NOT);
-      if (!isNot && !tape.isSign('[')) {
-        return readComparison(tape, open);
+      if (isNot || tape.isSign('[')) {
+        if (open >= MOST_OPEN) {
+          return tape.refuse(4);
+        }
+        tape.advance();
+        if (!isNot) {
+          return readTest(tape, open + 1) && tape.takeSign(']');
+        }
+        boolean isRead = readFact(tape, open + 1);
+        write(NOT);
+        return isRead;
       }
-      if (open >= MOST_OPEN) {
-        return tape.refuse(4);
-      }
-      tape.advance();
-      if (!isNot) {
-        return readTest(tape, open + 1) && tape.takeSign(']');
-      }
-      boolean isRead = readFact(tape, open + 1);
-      write(NOT);
-      return isRead;
-    }
-
-    private boolean readComparison(Tape tape, int open) {
       if (!readSum(tape, open)) {
         return false;
       }
@@ -1264,7 +1263,9 @@ public final class DropTwo {
 
     private boolean mayBegin(int statements) {
       boolean isFirst = statements == 0;
-      if (tape.kind != Tape.WORD || isFirst != (tape.value == Tape.ROUNDS) || !isBegin(tape.value)) {
+      if (tape.kind != Tape.WORD
+          || !isBegin(tape.value)
+          || isFirst != (tape.value == Tape.ROUNDS)) {
         return tape.refuse(1);
       }
       if (statements >= MOST_STATEMENTS || isFull(tape.value)) {
@@ -1558,7 +1559,7 @@ public final class DropTwo {
 
     /** Only while somebody is at the board. */
     int boardSlot() {
-      return slotOf(diver, round);
+      return (diver * MOST_ROUNDS + round - 1) * SLOT;
     }
 
     void clearSlot(int slot) {
@@ -1703,12 +1704,8 @@ public final class DropTwo {
       }
     }
 
-    boolean isSeated(int judge) {
-      return (seated >> judge & 1) == 1;
-    }
-
-    boolean isOfSort(int judge, int sort) {
-      return isSeated(judge) && meet.judgeSort[judge] == sort;
+    private boolean isOfSort(int judge, int sort) {
+      return (seated >> judge & 1) == 1 && meet.judgeSort[judge] == sort;
     }
 
     /** The points of the dive by the awards as they stand in awards. */
@@ -1957,8 +1954,11 @@ public final class DropTwo {
       if (!isReady()) {
         return REFUSED;
       }
+      int from = state.boardSlot() + State.AWARDS;
       for (int judge = 0; judge < meet.judges; judge++) {
-        doMark(judge, award);
+        if (meet.isOnPanel(judge, state.diver)) {
+          state.slots[from + judge] = award;
+        }
       }
       return 0;
     }
@@ -1967,10 +1967,11 @@ public final class DropTwo {
       if (!isReady() || count != meet.countPanel(state.diver)) {
         return REFUSED;
       }
+      int first = state.boardSlot() + State.AWARDS;
       int next = from;
       for (int judge = 0; judge < meet.judges && next < row.length; judge++) {
         if (meet.isOnPanel(judge, state.diver)) {
-          doMark(judge, row[next]);
+          state.slots[first + judge] = row[next];
           next++;
         }
       }
@@ -2082,9 +2083,10 @@ public final class DropTwo {
 
     int entrantAt(int i) {
       for (int entrant = 0; entrant < meet.entrants; entrant++) {
-        int place = rankOf(entrant) - 1;
+        int rank = rankOf(entrant);
+        int place = rank - 1;
         for (int other = 0; other < entrant; other++) {
-          if (rankOf(other) == place + 1) {
+          if (rankOf(other) == rank) {
             place++;
           }
         }
@@ -2096,7 +2098,7 @@ public final class DropTwo {
     }
   }
 
-  /** Rows of dives that obey. What a law asks hangs on which dives are ahead, not on their order. */
+  /** Rows that obey. What a law tells hangs on which dives are ahead, not on their order. */
   private static final class Ways {
     private static final int SETS = 1 << MOST_DIVES;
 
