@@ -1059,7 +1059,7 @@ public final class DropTwo {
       }
     }
 
-    boolean readTest(Tape tape, int open) {
+    private boolean readTest(Tape tape, int open) {
       boolean isRead = readBoth(tape, open);
       for (int i = 0; i < TAPE_ROOM && isRead && tape.isWord(Tape.OR); i++) {
         tape.advance();

@@ -229,6 +229,9 @@ public final class BoardTest {
     CHECK.due("out", 2, x.out(0));
     CHECK.due("not in", -3, x.change(0, 2, 1));
     CHECK.due("not in, no such dive", -2, x.change(0, 2, 9));
+    DropTwo failed = meet(DIVERS);
+    Check.script(failed, "fail;give;");
+    CHECK.due("given, with no points", -3, failed.change(0, 1, 2));
     DropTwo y = meet(DIVERS);
     CHECK.due("ahead of its turn", 1, y.change(1, 1, 0));
     Check.script(y, "all 5;give;");

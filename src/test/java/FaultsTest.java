@@ -196,6 +196,10 @@ public final class FaultsTest {
     meetFault(5, FULL + "list ann fa ba;pair bob land 1;list bob fa ba;^");
     String pairs = "judge land 1 first;judge land 1 second;";
     meetFault(5, FULL + pairs + "list ann fa ba;pair bob land 1;list bob fa ba;^");
+    String pair = FULL + "list ann fa ba;pair bob land 1;list bob fa ba;";
+    meetFault(5, pair + "judge land 1 first;judge land 1 together;^");
+    meetFault(5, pair + "judge land 1 second;judge land 1 together;^");
+    meetGood(12, pair + "judge land 1 second;judge land 1 first;judge land 1 together;");
     meetGood(12, FULL + pairs + "judge land 1 together;list ann fa ba;pair bob land 1;list bob fa ba;");
     meetFault(5, FULL.replace("judge land 1;", "judge land 1 first;") + "list ann fa ba;^");
   }

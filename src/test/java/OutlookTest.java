@@ -129,6 +129,11 @@ public final class OutlookTest {
     DropTwo y = meet("rounds 2 drop 0;" + FIVE + TWO.replace("list bob ba re", "list bob fa re"));
     script(y, "all 9;give;all 9;give;");
     CHECK.due("one", 1, y.bribes(0, 1, 1));
+    // All eleven: 11 * 20 is more than 219, ten of them and a 0 are not.
+    DropTwo v = meet("rounds 2 drop 0;" + "judge land 1;".repeat(11)
+        + TWO.replace("list bob ba re", "list bob fa re"));
+    script(v, "all 0;give;marks 20 20 20 20 20 20 20 20 20 20 19;give;");
+    CHECK.due("all eleven", 11, v.bribes(0, 1, 1));
     // A cap stands: 9 at most counts, so nothing helps.
     DropTwo z = meet("rounds 2 drop 0;" + FIVE + TWO.replace("list bob ba re", "list bob fa re"));
     script(z, "cap 9;all 9;give;all 9;give;");
@@ -271,6 +276,11 @@ public final class OutlookTest {
     CHECK.due("no such drop", -1, x.asDrop(-1, 0));
     CHECK.due("no such one", -1, x.asDrop(0, 2));
     CHECK.due("no such one", -1, x.asDrop(0, -1));
+    DropTwo y = meet("rounds 2 drop 1;judge land 1;judge land 1;judge land 1;" + TWO);
+    script(y, "marks 9 0 0;give;");
+    CHECK.due("no points", 0, y.total(0, 0));
+    CHECK.due("they would have counted", 9 * 15 * 20 / 3, y.asDrop(0, 0));
+    CHECK.due("they would have counted", 9 * 15 * 20 / 2, y.without(1, 0));
     DropTwo z = meet("rounds 2 drop 0;" + FIVE + TWO + "cut 1 most 1 anew;");
     script(z, "marks 2 8 2 2 2;give;marks 4 6 4 4 9;give;");
     CHECK.due("cuts stay: anew", 0, z.asDrop(2, 1));
@@ -417,6 +427,9 @@ public final class OutlookTest {
     DropTwo y = meet(DRAWS + "form ann 1 0 0 0 0 0;form bob 0 0 0 0 0 0;");
     CHECK.due("like totals are both first", 1, y.wins(0, 1, 0));
     CHECK.due("like totals are both first", 1, y.wins(0, 1, 1));
+    DropTwo least = meet(DRAWS + "form ann 0 0 0 0 0 0;form bob 2 0 0 0 0 0;");
+    CHECK.due("0 at least: 0 and 1", 0, least.wins(0, 1, 0));
+    CHECK.due("0 at least: 0 and 1", 1, least.wins(0, 1, 1));
     DropTwo z = meet(DRAWS + "form ann 20 0 0 0 0 0;form bob 20 0 0 0 0 0;");
     CHECK.due("twenty at most: 18 and 19", 0, z.wins(0, 1, 0));
     CHECK.due("twenty at most: 20 and 20", 1, z.wins(0, 2, 0));
@@ -443,6 +456,20 @@ public final class OutlookTest {
     CHECK.due("who is out is not", 0, y.wins(1, 3, 1));
     script(y, "out ann;");
     CHECK.due("all are out", 3, y.wins(1, 3, 1));
+    // The last one of 36 dives alone makes one win.
+    StringBuilder full = new StringBuilder("rounds 6 drop 0;judge land 1;");
+    for (int d = 0; d < 5; d++) {
+      full.append("dive ").append((char) ('a' + d)).append(" group 1 degree 10;");
+    }
+    full.append("dive f group 6 degree 60;dive g group 2 degree 10;");
+    for (int e = 0; e < 6; e++) {
+      char name = (char) ('u' + e);
+      full.append("diver ").append(name).append(" land 1;list ").append(name).append(" a b c d e ")
+          .append(e == 5 ? 'f' : 'g').append(";form ").append(name).append(" 0 0 0 0 0 20;");
+    }
+    DropTwo w = meet(full.toString());
+    CHECK.due("the last dive", 5, w.wins(77, 5, 5));
+    CHECK.due("the others", 0, w.wins(77, 5, 0));
     // Judges by numbers, whatever their sorts: draws 0 1 4 make 8, 9, 12 of a pair.
     DropTwo z = meet("rounds 1 drop 0;judge land 1 together;judge land 1;judge land 1 first;"
         + "judge land 1 second;dive fa group 1 degree 20;pair a land 1;diver b land 1;"
