@@ -1044,15 +1044,17 @@ public final class DropTwo {
       System.arraycopy(other.ends, 0, ends, 0, MOST_LAWS);
     }
 
-    /** Ahead of the reading of a law; there must be room for one more. */
+    /** Ahead of the reading of a law. */
     void open() {
-      ends[size] = written;
-      size++;
+      if (size < MOST_LAWS) {
+        ends[size] = written;
+        size++;
+      }
       values = 0;
     }
 
     private void write(int step) {
-      if (written < TAPE_ROOM) {
+      if (written < TAPE_ROOM && size > 0) {
         steps[written] = step;
         written++;
         ends[size - 1] = written;
