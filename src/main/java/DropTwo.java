@@ -2049,11 +2049,11 @@ public final class DropTwo {
         return REFUSED;
       }
       state.status[entrant] = WITHDRAWN;
-      int left = countIn();
       if (state.diver == entrant) {
         callNext();
       }
-      return left;
+      // Counted last: a cut may have come behind the one that went out.
+      return countIn();
     }
 
     int rankOf(int entrant) {

@@ -16,6 +16,7 @@ public final class BoardTest {
     giving();
     goingOut();
     goingOutAtTheEnd();
+    goingOutAheadOfACut();
     changing();
     undoing();
     orders();
@@ -186,7 +187,7 @@ public final class BoardTest {
     // Out as the last one of a round: the next round begins, the cut is made.
     DropTwo x = meet(DIVERS + "cut 1 most 1;");
     Check.script(x, "all 5;give;all 9;give;");
-    CHECK.due("out at the board", 2, x.out(2));
+    CHECK.due("out at the board, one of the others is cut", 1, x.out(2));
     CHECK.due("one is in", 1, x.look(9));
     CHECK.due("cut", 1, x.entrant(0, 2));
     CHECK.due("withdrawn", 7, x.entrant(2, 2));
@@ -200,6 +201,35 @@ public final class BoardTest {
     CHECK.due("cy does not", 1, y.entrant(2, 2));
     CHECK.due("ann is out", 7, y.entrant(0, 2));
     CHECK.due("who is cut can't go out", -3, y.out(2));
+  }
+
+  /** The answer of out() is how many are in behind the cut that it brings. */
+  private static void goingOutAheadOfACut() {
+    DropTwo x = meet("rounds 3 drop 0;" + FOUR + "cut 1 most 1;");
+    Check.script(x, "all 7;give;all 5;give;all 7;give;");
+    CHECK.due("two have the most", 2, x.out(3));
+    CHECK.due("b is cut", 1, x.entrant(1, 2));
+    CHECK.due("undo", 1, x.undo());
+    CHECK.due("the cut is undone, too", 4, x.look(9));
+    CHECK.due("not at the board: no cut comes yet", 3, x.out(1));
+    CHECK.due("it comes now", 2, x.out(3));
+    DropTwo y = meet("rounds 3 drop 0;" + FOUR + "cut 1 most 2 anew;cut 2 most 1;");
+    Check.script(y, "all 7;give;all 5;give;all 6;give;");
+    CHECK.due("two go on anew", 2, y.out(3));
+    board(y, 2, 2);
+    Check.script(y, "all 5;give;");
+    CHECK.due("one is left, and goes on", 1, y.out(0));
+    board(y, 2, 3);
+    CHECK.due("nobody is left", 0, y.out(2));
+    CHECK.due("over", 1, y.look(8));
+    DropTwo z = meet("rounds 3 drop 0;" + FOUR + "cut 2 most 1;");
+    Check.script(z, "all 7;give;all 5;give;all 6;give;");
+    CHECK.due("behind a round without a cut all go on", 3, z.out(3));
+    board(z, 0, 2);
+    Check.script(z, "all 7;give;all 5;give;");
+    CHECK.due("as an act of a script", 1, Check.script(z, "out c;"));
+    CHECK.due("a alone is in", 1, z.look(9));
+    CHECK.due("b is cut", 2, z.entrant(1, 2));
   }
 
   private static void changing() {

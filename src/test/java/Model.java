@@ -1020,9 +1020,8 @@ final class Model {
     }
     now.status[e] = 7;
     now.waiting.remove((Integer) e);
-    int left = in().size();
     goOn();
-    return left;
+    return in().size();
   }
 
   private void goOn() {
