@@ -79,7 +79,7 @@ public final class ModelTest {
       } else if (kind < 72) {
         aName();
       } else if (kind < 74) {
-        feedBoth(spoil(meetText()));
+        feedBoth(chance(40) ? meetText() : spoil(meetText()));
         due("meet()", x.meet(), m.meet());
         faults();
       } else {
@@ -355,7 +355,13 @@ public final class ModelTest {
     if (chance(5)) {
       call("fail", 0, 0, 0, 0);
     }
-    call("give", 0, 0, 0, 0);
+    if (chance(8)) {
+      // Whoever is there may be the last one of a round, behind which a cut comes.
+      call("out", m.board(0), 0, 0, 0);
+      call("look", 9, 0, 0, 0);
+    } else {
+      call("give", 0, 0, 0, 0);
+    }
     call("board", 0, 0, 0, 0);
     call("board", 1, 0, 0, 0);
   }

@@ -261,6 +261,10 @@ public final class OutlookTest {
     CHECK.due("ann was cut", 8 * 15 * 20, z.without(0, 0));
     script(z, "marks 5 7;give;");
     CHECK.due("of the second round alone", 7 * 15 * 25, z.without(0, 1));
+    Check.meet(z, "rounds 2 drop 0;judge land 1;judge land 2;" + TWO + "cut 1 most 1 anew;");
+    script(z, "marks 9 9;give;marks 4 6;give;");
+    CHECK.due("a new meet: bob was cut behind its first dive", 6 * 15 * 30, z.without(0, 1));
+    CHECK.due("likewise", 10 * 15 * 30 / 2, z.asDrop(0, 1));
   }
 
   private static void drops() {

@@ -157,5 +157,19 @@ public final class TextsTest {
     CHECK.due("none", -1, Check.named(x, 0, ""));
     CHECK.due("a capital", -1, Check.named(x, 0, "FA"));
     CHECK.due("a cut name", -1, Check.named(x, 0, "f a"));
+    shortNames();
+  }
+
+  /** The least of all names is not taken for what is no name. */
+  private static void shortNames() {
+    DropTwo x = new DropTwo();
+    Check.meet(x, "rounds 1 drop 0;judge land 1;dive a group 1 degree 20;diver b land 1;list b a;");
+    CHECK.due("a dive", 0, Check.named(x, 0, "a"));
+    CHECK.due("an entrant", 0, Check.named(x, 1, "b"));
+    CHECK.due("none", -1, Check.named(x, 0, ""));
+    CHECK.due("no name", -1, Check.named(x, 0, "7"));
+    CHECK.due("a word", -1, Check.named(x, 0, "all"));
+    CHECK.due("two names", -1, Check.named(x, 0, "a a"));
+    CHECK.due("a name and a sign", -1, Check.named(x, 0, "a;"));
   }
 }
