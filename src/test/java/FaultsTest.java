@@ -17,6 +17,7 @@ public final class FaultsTest {
     wholes();
     scripts();
     staying();
+    endings();
     CHECK.finish();
   }
 
@@ -272,5 +273,27 @@ public final class FaultsTest {
     CHECK.due("a good script", 1, Check.script(x, "cap 3;"));
     CHECK.due("fault(0) then", 0, x.fault(0));
     CHECK.due("fault(1) then", -1, x.fault(1));
+  }
+
+  /** Bytes that were on the tape behind its end are no part of the text. */
+  private static void endings() {
+    String[] ends = {"rounds 1", "rounds 1 drop 0", "rounds", "rounds 1 "};
+    for (String text : ends) {
+      for (char behind : "7a; ".toCharArray()) {
+        DropTwo x = new DropTwo();
+        Check.feed(x, text + String.valueOf(behind).repeat(20));
+        x.end(text.length());
+        CHECK.due("meet of " + text, -1, x.meet());
+        CHECK.due("fault of " + text, 1, x.fault(0));
+        CHECK.due("place of " + text, text.length(), x.fault(1));
+      }
+    }
+    for (String last : new String[] {"7", "a", ";", " "}) {
+      String text = "rounds 1 drop" + " ".repeat(1186) + last;
+      DropTwo x = new DropTwo();
+      CHECK.due("a full tape", -1, Check.meet(x, text));
+      CHECK.due("the first fault", last.equals("7") ? 2 : 1, x.fault(0));
+      CHECK.due("its place", last.equals(" ") ? 1200 : 1199, x.fault(1));
+    }
   }
 }

@@ -14,6 +14,8 @@ public final class LawsTest {
     rows();
     noRows();
     manyRows();
+    manyRowsOfBoth();
+    anotherMeet();
     bestRows();
     CHECK.finish();
   }
@@ -181,6 +183,37 @@ public final class LawsTest {
     // All of another meet is worked out anew.
     CHECK.due("meet", 15, Check.meet(x, text + "law degree < 26;"));
     CHECK.due("ways", 720, x.ways(0));
+  }
+
+  private static void manyRowsOfBoth() {
+    StringBuilder text = new StringBuilder("rounds 6 drop 0;judge land 1;judge land 1 first;"
+        + "judge land 1 second;judge land 1 together;diver ann land 1;pair duo land 1;");
+    for (int d = 0; d < 10; d++) {
+      text.append("dive ").append((char) ('a' + d)).append(" group 1 degree ").append(20 + d).append(';');
+    }
+    text.append("list ann a b c d e f;list duo a b c d e f;law pair = 0 or degree < 27;");
+    DropTwo x = new DropTwo();
+    CHECK.due("meet", 20, Check.meet(x, text.toString()));
+    CHECK.due("seven dives for six rounds", 5040, x.ways(1));
+    CHECK.due("all of a diver", 151200, x.ways(0));
+    CHECK.due("those of the pair are still the same", 5040, x.ways(1));
+    CHECK.due("the last one of the pair", 6, x.way(1, 5039, 1));
+    CHECK.due("the last one of the pair", 1, x.way(1, 5039, 6));
+    CHECK.due("the best one of the pair", 15 * (10 * (21 + 22 + 23 + 24) + 9 * (25 + 26)), x.best(1, 0));
+  }
+
+  /** Nothing of a meet ahead is left in what is worked out of the next one. */
+  private static void anotherMeet() {
+    String two = "judge land 1;dive a group 1 degree 20;dive b group 2 degree 20;";
+    DropTwo x = new DropTwo();
+    Check.meet(x, "rounds 1 drop 0;" + two + "dive c group 1 degree 20;diver ann land 1;list ann a;law not 1 = 2;");
+    CHECK.due("it is so", 1, x.law(0, 0, 1));
+    CHECK.due("best of one round", 3000, x.best(0, 0));
+    Check.meet(x, "rounds 2 drop 0;" + two + "diver ann land 1;list ann a b;law 1 = 1;");
+    CHECK.due("a shorter law", 1, x.law(0, 0, 1));
+    CHECK.due("as many dives as rounds", 2, x.ways(0));
+    CHECK.due("best of both", 6000, x.best(0, 0));
+    CHECK.due("order of both", 6000, x.order(0, 0));
   }
 
   private static void bestRows() {
