@@ -86,6 +86,16 @@ final class EdgesOfBoard {
     edges.due("of a diver", 2, x.board(4));
     x.mark(2, 0);
     edges.due("one, by 0", 1, x.board(3));
+    // In the last of six rounds, with dives of others given behind and ahead.
+    DropTwo six = edges.meet(EdgesOfMeets.rounds(6, 0, "diver bob land 1;list bob a b c d e f;"));
+    for (int dive = 0; dive < 12; dive++) {
+      edges.due("none of dive " + dive, 0, six.board(3));
+      six.mark(0, 5);
+      edges.due("one of dive " + dive, 1, six.board(3));
+      six.give();
+    }
+    x.undo();
+    x.mark(2, 0);
     x.mark(2, 5);
     edges.due("still one", 1, x.board(3));
     x.mark(0, 5);
@@ -419,6 +429,13 @@ final class EdgesOfBoard {
     edges.act(x, "all 1;give;");
     refused(x, 0, 2, 0);
     edges.due("what another list has is free", 1, x.change(0, 2, 2));
+    DropTwo six = edges.meet(EdgesOfMeets.rounds(6, 0, "dive g group 1 degree 20;"));
+    for (int dive = 0; dive < 6; dive++) {
+      refused(six, 0, 2, dive);
+      refused(six, 0, 6, dive);
+    }
+    edges.due("the one that is left", 5, six.change(0, 6, 6));
+    edges.due("what it was is free then", 1, six.change(0, 2, 5));
   }
 
   private void changeBreaks() {
@@ -450,6 +467,10 @@ final class EdgesOfBoard {
     edges.due("one mark", 1, x.board(3));
     edges.due("mark", 0, x.undo());
     edges.due("none", 0, x.board(3));
+    String[] acts = {"mark", "balk", "cap", "half", "fail", "give", "out", "change", "script"};
+    for (int act = 0; act < acts.length; act++) {
+      undone(acts[act], act);
+    }
     // Behind a cut: who was cut is in again, totals are as they were.
     DropTwo y = edges.meet(FOUR + "cut 1 most 1 anew;");
     edges.act(y, "all 5;give;all 6;give;all 4;give;all 3;");
@@ -458,7 +479,26 @@ final class EdgesOfBoard {
     edges.due("undo", 1, y.undo());
     edges.due("all are in", 4, y.look(9));
     edges.due("total", 6 * 300, y.total(1, 0));
+    edges.due("its dive is one of its total", 6 * 300, y.asDrop(0, 1));
     edges.due("at the board", 3, y.board(0));
+  }
+
+  /** One act by its call, with others ahead of it: all is as it was behind them. */
+  private void undone(String name, int act) {
+    DropTwo x = edges.meet(BOTH + "dive tw group 4 degree 20;cut 1 most 2 anew;");
+    edges.act(x, "all 1;give;half second;all 9;cap 8;");
+    x.mark(1, 3);
+    x.mark(3, 20);
+    edges.stays("undo of " + name, x, () -> {
+      int[] answers = {
+        act == 0 ? x.mark(1, 4) : 0, act == 1 ? x.balk() : 0, act == 2 ? x.cap(3) : 0, act == 3 ? x.half(0) : 0,
+        act == 4 ? x.fail() : 0, act == 5 ? x.give() : 0, act == 6 ? x.out(1) : 0, act == 7 ? x.change(0, 2, 3) : 0,
+        act == 8 ? Check.script(x, "balk;give;all 3;give;") : 0
+      };
+      edges.isTrue(name + " is done", answers[act] >= 0);
+      edges.due("acts behind " + name, 4, x.look(7));
+      edges.due("undo of " + name, 3, x.undo());
+    });
   }
 
   private void undoRefused() {

@@ -1,6 +1,5 @@
 /** Promises 48 to 51: what is left by form, who would go on, the best order, runs that are drawn. */
 final class EdgesOfFuture {
-  private static final String BOTH = EdgesOfScripts.BOTH;
   private static final String FOUR = EdgesOfRounds.FOUR;
   /** By form fa has 10 * 300 = 3000, ba 8 * 450 = 3600, re 9 * 375 = 3375, tw 6 * 600 = 3600. */
   private static final String RACE =
@@ -182,15 +181,22 @@ final class EdgesOfFuture {
     edges.act(given, "all 5;give;all 5;give;");
     // fa, then one of re, tw: tw has more.
     row(given, 1, TW, 0, 3, 2);
-    edges.due("by its own form", BA + TW, race("form bob 0 10 0 10 0 0;cut 2 most 1;", "").order(1, 0) + TW);
+    // What was given stays, though it failed or had 0 points.
+    row(race("cut 2 most 1;", "fail;give;"), 0, BA, 0, 1, 2);
+    row(race("cut 2 most 1;", "fail;give;fail;give;"), 1, RE, 1, 2, 0);
+    row(race("cut 2 most 1;", "all 0;give;all 0;give;all 0;give;"), 1, RE, 1, 2, 0);
+    // By its own form: ba and re have 0 and 0, fa 3000.
+    row(race("form bob 10 0 0 0 0 0;cut 1 most 1;", ""), 1, FA, 0, 1, 2);
   }
 
   private void orderAtTheBoard() {
     // ann has fa at the board, which is worth less than ba.
     row(race("cut 1 most 1;", ""), 0, FA, 0, 1, 2);
     row(race("cut 1 most 1;", ""), 1, BA, 1, 0, 2);
-    // In the second round it is ba that stays, and fa that was given.
-    DropTwo x = race("law not group=2 or round=3;", "all 5;give;all 5;give;");
+    // In the second round ba stays, though it may be in the third one alone; ahead of that it may go there.
+    DropTwo x = race("law not group=2 or round=3;", "all 5;give;");
+    row(x, 0, RE + BA, 0, 2, 1);
+    edges.act(x, "all 5;give;");
     row(x, 0, -1, -1, -1, -1);
     // Its points count though it stays, whatever stands there.
     row(race("cut 1 most 1;", "cap 0;balk;fail;"), 0, FA, 0, 1, 2);
@@ -410,7 +416,6 @@ final class EdgesOfFuture {
   private void winsByJudges() {
     duels(edges.meet(duel(2, 0)), 2, 10, 10);
     duels(edges.meet(duel(5, 0) + "form bob 11 0 0 0 0 0;"), 5, 10, 11);
-    duels(edges.meet(duel(1, 0).replace("degree 20", "degree 20")), 1, 10, 10);
     // By degree 30 the form is 8, two less; of both alike.
     DropTwo x = edges.meet(duel(1, 0).replace("degree 20", "degree 30") + "form ann 12 0 0 0 0 0;");
     edges.due("10 to 8", duelWins(77, 40, 1, 10, 8)[0], x.wins(77, 40, 0));
@@ -435,12 +440,10 @@ final class EdgesOfFuture {
       edges.due("seed " + seed, middle[0] >= middle[1] ? 1 : 0, three.wins(seed, 1, 0));
       edges.due("seed " + seed, middle[1] >= middle[0] ? 1 : 0, three.wins(seed, 1, 1));
     }
-    // Numbers in turn, not sort by sort: by half awards of first, second, together the sums tell no order,
-    // so the last judge of a pair alone is kept apart by a land of its own.
     pairsByNumbers();
   }
 
-  /** Three of first, one each of the others, told in an order of their own; drop 1 trims first alone. */
+  /** By numbers, not sort by sort: drop 1 trims the three of first alone, so it tells whose draw was whose. */
   private void pairsByNumbers() {
     int[] sorts = {1, 3, 1, 2, 1};
     DropTwo x = edges.meet("rounds 1 drop 1;judge land 1 first;judge land 1 together;judge land 1 first;"

@@ -138,6 +138,7 @@ final class EdgesOfKept {
     edges.due("marked", 3, x.marked(0));
     edges.due("all are in", 4, x.look(9));
     edges.due("total", 1500, x.total(0, 0));
+    edges.due("its dive is one of its total", 1500, x.asDrop(0, 0));
     edges.due("not cut", 0, x.entrant(3, 2));
     edges.due("its award", 6, x.award(1, 1, 0, 0));
     edges.due("give goes on from there", 0, x.give());
@@ -145,6 +146,7 @@ final class EdgesOfKept {
     edges.due("back to the second one", 5, x.back(1));
     edges.isTrue("all as it was, but acts", Edges.view(x).equals(acts(second, x)));
     edges.due("b is out", 7, x.entrant(1, 2));
+    edges.due("it had begun anew, and had 5", 1500, x.asDrop(0, 1));
     // What is kept stays so: it comes back again, and what is done behind it does not change it.
     edges.due("back again", 3, x.back(0));
     edges.due("a half that is none", -3, x.half(0));

@@ -91,6 +91,9 @@ final class EdgesOfMeets {
     edges.good(5, open + " ".repeat(1199 - open.length()) + ";");
     edges.fault(1, ONE + " ".repeat(1199 - ONE.length()) + "^x");
     edges.fault(1, open + " ".repeat(1200 - open.length()) + "^");
+    edges.fault(1, " ".repeat(1199) + "^7");
+    edges.fault(1, " ".repeat(1194) + "rounds^");
+    edges.fault(1, "rounds" + " ".repeat(1193) + "1^");
     DropTwo x = new DropTwo();
     edges.isTrue("1,201 bytes don't go on it", !Check.feed(x, ONE + " ".repeat(1201 - ONE.length())));
   }
@@ -370,9 +373,32 @@ final class EdgesOfMeets {
     edges.due("the last one", 4, x.entrant(5, 1));
     edges.due("the last one", 1, x.entrant(5, 0));
     edges.due("one more", -1, x.entrant(6, 1));
+    // All six dive, each in its turn, over a cut; and all are looked at.
+    DropTwo six = edges.meet(sixDivers("cut 1 most 5;"));
+    for (int entrant = 0; entrant < 6; entrant++) {
+      edges.due("at the board", entrant, six.board(0));
+      edges.act(six, "all " + (6 - entrant) + ";give;");
+    }
+    edges.due("five go on", 5, six.look(9));
+    edges.due("the sixth is cut", 1, six.entrant(5, 2));
+    edges.due("the fifth is the next one", 4, six.board(0));
+    edges.due("dives of judge 0", 6, six.bias(0, 0));
+    edges.due("dives of no other land", 0, six.bias(0, 2));
+    edges.due("marked alike", 6, six.alike(0, 1));
+    edges.due("kept", 6, six.dropped(0, 2));
+    edges.due("would the first one win, who leads by one", 1, Math.min(1, six.wins(0, 40, 0)));
     edges.fault(4, ONE + entrants(5) + "^diver zz land 1;");
     edges.fault(4, ONE + entrants(5) + "^pair zz land 1;");
     edges.fault(4, ONE + entrants(5) + "^diver ann;");
+  }
+
+  private static String sixDivers(String behind) {
+    StringBuilder text = new StringBuilder(
+        "rounds 2 drop 0;judge land 1;judge land 1;dive fa group 1 degree 20;dive ba group 1 degree 20;");
+    for (char name = 'u'; name < 'u' + 6; name++) {
+      text.append("diver ").append(name).append(" land 1;list ").append(name).append(" fa ba;");
+    }
+    return text + behind;
   }
 
   private void listEntrants() {
@@ -455,6 +481,13 @@ final class EdgesOfMeets {
     edges.due("the first one", 1, x.cut(0, 1));
     edges.due("the last one", 3, x.cut(2, 1));
     edges.due("one more", -1, x.cut(3, 1));
+    // Played: ann alone goes on at each of them, and none comes behind the others.
+    for (int round = 1; round <= 6; round++) {
+      edges.due("goes", round <= 4 ? 1 : -1, x.goes(0));
+      edges.act(x, "all 5;give;");
+    }
+    edges.due("over", 1, x.look(8));
+    edges.due("ann is in", 0, x.entrant(0, 2));
     edges.fault(4, three + "^cut 5 most 1;");
     edges.fault(4, three + "^cut 0;");
   }

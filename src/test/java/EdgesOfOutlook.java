@@ -166,6 +166,9 @@ final class EdgesOfOutlook {
     edges.due("one of three: 4 to 6", 1, duel(3, 1, "marks 0 4 6;give;all 5;give;").bribes(0, 1, 1));
     // Points are cut: of seven 300 * 1 / 7 = 42 and 300 * 2 / 7 = 85.
     edges.due("of eleven", 11, duel(11, 0, "all 0;give;marks 20 20 20 20 20 20 20 20 20 20 19;give;").bribes(0, 1, 1));
+    // Judge 0 has the most, so that others are worth more.
+    edges.due("two of 5 0 0", 2, duel(3, 0, "marks 5 0 0;give;all 10;give;").bribes(0, 1, 1));
+    bribesOfPairs();
     // Sorts together: 0 of first counts, 4 at most of together; so those of second.
     DropTwo pair = edges.meet(BOTH);
     edges.act(pair, "all 12;give;half first;marks 9 8 4;give;");
@@ -174,6 +177,38 @@ final class EdgesOfOutlook {
     DropTwo less = edges.meet(BOTH);
     edges.act(less, "marks 12 11;give;half first;marks 9 8 4;give;");
     edges.due("one of second", 1, less.bribes(1, 1, 0));
+  }
+
+  /** One of first, two of second, three of together: 20 of all makes 6000, 20 of one of them 1000. */
+  private int bribesOfPair(int drop, int most, String acts) {
+    DropTwo x = edges.meet("rounds 1 drop " + drop + ";judge land 1 together;judge land 1 second;"
+        + "judge land 1 together;judge land 1;judge land 1 first;judge land 1 together;judge land 1 second;"
+        + "dive fa group 1 degree 20;diver ann land 1;pair duo land 1;list ann fa;list duo fa;");
+    edges.act(x, "all " + most + ";give;" + acts + "give;");
+    return x.bribes(1, 1, 0);
+  }
+
+  private void bribesOfPairs() {
+    // Together 0 0 0, the others 20: 3000, 4000, 5000, 6000.
+    int[][] due = {{9, 0}, {10, 1}, {13, 1}, {14, 2}, {16, 2}, {17, 3}, {19, 3}, {20, -2}};
+    for (int[] row : due) {
+      edges.due("of together to more than " + row[0], row[1], bribesOfPair(0, row[0], "marks 0 20 0 20 0 20;"));
+    }
+    // Second 0 0: 4000, 5000, 6000. First 0: 5000, 6000.
+    edges.due("one of second", 1, bribesOfPair(0, 16, "marks 20 0 20 20 20 0;"));
+    edges.due("both of second", 2, bribesOfPair(0, 17, "marks 20 0 20 20 20 0;"));
+    edges.due("the one of first", 1, bribesOfPair(0, 19, "marks 20 20 20 0 20 20;"));
+    // One of each: 3000, then by any of them.
+    edges.due("two of any", 2, bribesOfPair(0, 16, "marks 0 20 20 0 20 0;"));
+    edges.due("one of each", 3, bribesOfPair(0, 17, "marks 0 20 20 0 20 0;"));
+    edges.due("all six", 6, bribesOfPair(0, 19, "all 0;"));
+    edges.due("five of six", 5, bribesOfPair(0, 16, "all 0;"));
+    // The middle one of together alone is kept: two of them move it, one does not.
+    edges.due("two of together", 2, bribesOfPair(3, 19, "marks 0 20 0 20 0 20;"));
+    edges.due("one of together: 0 0 20", 1, bribesOfPair(3, 19, "marks 0 20 20 20 0 20;"));
+    // 0 of first counts, 4 at most of together: 20 20 of second alone move it, up to 2600.
+    edges.due("one of second", 1, bribesOfPair(0, 8, "half first;marks 4 0 4 0 4 20;"));
+    edges.due("not all together", -2, bribesOfPair(0, 9, "half first;marks 4 0 4 0 4 20;"));
   }
 
   private void bribesAndCuts() {

@@ -146,6 +146,19 @@ final class EdgesOfPanels {
         edges.due("dropped(" + judge + ", " + what + ")", due[judge][what], x.dropped(judge, what));
       }
     }
+    DropTwo once = lands("marks 5 9 6 7;give;marks 9 5 6 7;give;");
+    for (int what = 0; what <= 2; what++) {
+      edges.due("first, then last: dropped(0, " + what + ")", what < 2 ? 1 : 0, once.dropped(0, what));
+      edges.due("last, then first: dropped(1, " + what + ")", what < 2 ? 1 : 0, once.dropped(1, what));
+      edges.due("kept twice: dropped(3, " + what + ")", what < 2 ? 0 : 2, once.dropped(3, what));
+    }
+    DropTwo last = lands("marks 9 5 6 7;give;");
+    int[][] turned = {{0, 1, 0}, {1, 0, 0}, {0, 0, 1}, {0, 0, 1}};
+    for (int judge = 0; judge < 4; judge++) {
+      for (int what = 0; what <= 2; what++) {
+        edges.due("dropped(" + judge + ", " + what + ")", turned[judge][what], last.dropped(judge, what));
+      }
+    }
     edges.act(x, "all 5;");
     edges.due("marked, not given", 2, x.dropped(0, 0));
     edges.act(x, "fail;give;");
@@ -177,6 +190,11 @@ final class EdgesOfPanels {
     edges.due("without 2", (9 + 1) * 150, x.without(2, 0));
     edges.due("what failed", 0, x.without(0, 1));
     edges.due("as it was", (6 + 1) * 300, x.total(0, 0));
+    // Of a dive that had 0 points: 0 and 20 are left of 0 0 20.
+    DropTwo zero = edges.meet(TWO);
+    edges.act(zero, "marks 0 0 20;give;");
+    edges.due("nothing", 0, zero.points(0, 1));
+    edges.due("without one of them", 10 * 300, zero.without(0, 0));
     DropTwo y = edges.meet(BOTH);
     edges.act(y, "marks 3 9;give;marks 3 6 9;give;");
     edges.due("it judges it not", 6 * 300, y.without(1, 0));
@@ -225,6 +243,9 @@ final class EdgesOfPanels {
     edges.due("three are left", 14 * 300 / 3, x.asDrop(2, 0));
     edges.due("one is left", 4 * 300, x.asDrop(3, 0));
     edges.due("as it was", 31 * 300 / 5, x.total(0, 0));
+    DropTwo zero = edges.meet(TWO);
+    edges.act(zero, "marks 0 0 20;give;");
+    edges.due("of a dive that had 0 points", 20 * 100, zero.asDrop(0, 0));
     DropTwo few = edges.meet(EdgesOfAwards.single(3, 0, 20));
     edges.act(few, "marks 0 1 20;give;");
     edges.due("no more than one of three", 300, few.asDrop(3, 0));

@@ -65,6 +65,10 @@ final class EdgesOfPoints {
     edges.due("what counted", 7, x.award(0, 1, 0, 1));
     edges.due("what counted", 7, x.award(0, 1, 2, 1));
     edges.due("kept", 1, x.award(0, 1, 2, 2));
+    edges.act(x, "marks 1 2;give;");
+    edges.due("of the dive ahead", 7, x.award(0, 1, 2, 1));
+    edges.due("of this one", 2, x.award(0, 2, 2, 1));
+    edges.due("of this one", 1, x.award(0, 2, 0, 0));
     DropTwo y = edges.meet(EdgesOfAwards.single(3, 1, 20));
     edges.act(y, "marks 20 0 9;give;");
     int[] kept = {0, 0, 1};

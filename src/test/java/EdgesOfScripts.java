@@ -101,6 +101,14 @@ final class EdgesOfScripts {
     for (int judge = 0; judge < 11; judge++) {
       edges.due("marked(" + judge + ")", judge, eleven.marked(judge));
     }
+    // The last of sixty acts has room for eleven, too.
+    edges.due("sixty", 60, Check.script(eleven, "cap 9;".repeat(59) + "marks 10 9 8 7 6 5 4 3 2 1 0;"));
+    for (int judge = 0; judge < 11; judge++) {
+      edges.due("marked(" + judge + ")", 10 - judge, eleven.marked(judge));
+    }
+    // Each of marks has its own awards.
+    edges.due("two of them", 3, Check.script(eleven, "marks 0 0 0 0 0 0 0 0 0 0 0;cap 20;marks 1 2 3 4 5 6 7 8 9 10 11;"));
+    edges.due("the last one's", 11, eleven.marked(10));
     fault(4, "marks 1 1 1 1 1 1 1 1 1 1 1 ^1;");
     fault(1, "marks^;");
     fault(1, "marks 1 ^give;");

@@ -118,6 +118,15 @@ final class EdgesOfTexts {
     Check.feed(y, ONE + "?");
     edges.isTrue("end", y.end(ONE.length()));
     edges.due("the first bytes alone", 5, y.meet());
+    // What was cut off is not read, though it would make a longer number, a longer word.
+    Check.feed(y, "rounds 12");
+    y.end(8);
+    edges.due("rounds 1", -1, y.meet());
+    edges.due("the end, not a 12 that can't be", 1, y.fault(0));
+    edges.due("the end, not a 12 that can't be", 8, y.fault(1));
+    Check.feed(y, "fab");
+    y.end(2);
+    edges.due("fa", 0, y.named(0));
   }
 
   private void endsNot() {
@@ -156,6 +165,29 @@ final class EdgesOfTexts {
     edges.due("no balk", 0, x.board(5));
     edges.due("nothing is marked", 0, x.board(3));
     edges.due("none was given", 0, x.entrant(0, 3));
+    nothingOfTheOldMeet();
+  }
+
+  private void nothingOfTheOldMeet() {
+    DropTwo x = edges.meet(BOTH + "law not group=3;law 1=1;cut 1 most 1 anew;form ann 0 0 0 0 0 0;");
+    edges.act(x, "all 5;give;all 3;give;");
+    edges.due("duo is cut", 1, x.entrant(1, 2));
+    edges.due("ann goes on, anew", 0, x.asDrop(1, 0));
+    edges.due("rows by the old law", 2, x.ways(0));
+    edges.due("the first one", 0, x.way(0, 0, 1));
+    edges.due("rows by the old law", 2, x.ways(1));
+    edges.due("meet", 14, Check.meet(x, BOTH + "law not group=1;"));
+    edges.due("rows by the new law", 2, x.ways(0));
+    edges.due("the first one", 1, x.way(0, 0, 1));
+    edges.due("rows by the new law", 2, x.ways(1));
+    edges.due("the new law", 0, x.law(0, 0, 1));
+    edges.due("the new law", 1, x.law(0, 0, 2));
+    edges.due("no second one", -1, x.law(1, 0, 2));
+    edges.act(x, "all 5;give;all 4;give;");
+    edges.due("no cut comes", 2, x.look(9));
+    edges.due("not anew", 5 * 300, x.total(0, 0));
+    edges.due("not anew", 5 * 300, x.asDrop(1, 0));
+    edges.due("by the form not told", 5 * 300 + 8 * 450, x.expected(0));
   }
 
   private void meetForgets() {
@@ -357,6 +389,10 @@ final class EdgesOfTexts {
     for (int what : new int[] {-1, 2, Integer.MIN_VALUE, Integer.MAX_VALUE}) {
       edges.due("another what " + what, -1, Check.named(x, what, "fa"));
       edges.due("another what " + what, -1, Check.named(x, what, "ann"));
+    }
+    DropTwo a = edges.meet(ONE.replace("fa", "a").replace("ann", "b"));
+    for (String text : new String[] {"", " ", "?", "7", "give", "aa", "a a", "a b", "b a", "b", "a?", "a 1"}) {
+      edges.due("named " + text, -1, Check.named(a, 0, text));
     }
     edges.due("without a meet", -1, Check.named(new DropTwo(), 0, "fa"));
     edges.due("without a meet", -1, Check.named(new DropTwo(), 1, ""));
