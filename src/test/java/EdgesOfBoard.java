@@ -431,8 +431,8 @@ final class EdgesOfBoard {
     edges.due("what another list has is free", 1, x.change(0, 2, 2));
     DropTwo six = edges.meet(EdgesOfMeets.rounds(6, 0, "dive g group 1 degree 20;"));
     for (int dive = 0; dive < 6; dive++) {
-      refused(six, 0, 2, dive);
-      refused(six, 0, 6, dive);
+      edges.due("change of the second round", -3, six.change(0, 2, dive));
+      edges.due("change of the last round", -3, six.change(0, 6, dive));
     }
     edges.due("the one that is left", 5, six.change(0, 6, 6));
     edges.due("what it was is free then", 1, six.change(0, 2, 5));
